@@ -65,7 +65,7 @@ public final class GossipTrain {
         if (!isUpTo(v, MOST_DIGIT) || !isUpTo(knows, ALL_TALES)) {
             return BAD;
         }
-        return now.passengers >= PASSENGERS ? FULL : now.board(kind, v, carriage, knows);
+        return now.board(kind, v, carriage, knows);
     }
 
     public int of(int person, int what) {
@@ -148,7 +148,7 @@ public final class GossipTrain {
         if (!isUpTo(sign, LAST_SIGN)) {
             return BAD;
         }
-        return scribe.length >= MOST_SIGNS ? FULL : scribe.write(sign);
+        return scribe.write(sign);
     }
 
     public int branch() {
@@ -304,7 +304,7 @@ public final class GossipTrain {
         if (!isUpTo(glow, MOST_GLOW_SEEN)) {
             return BAD;
         }
-        return notes.seen.isFull() ? FULL : notes.seen.append(person, tale, glow);
+        return notes.seen.append(person, tale, glow);
     }
 
     public int can(int what, int i, int part) {
@@ -376,7 +376,7 @@ public final class GossipTrain {
         if (!isWithin(what, 4) || what != 0 && !isPerson(person) || !isWithin(carriage, CARRIAGES)) {
             return NONE;
         }
-        return notes.plan.isFull() ? FULL : notes.plan.append(what, person, carriage);
+        return notes.plan.append(what, person, carriage);
     }
 
     public int ends(int what) {
@@ -400,7 +400,7 @@ public final class GossipTrain {
         if (!isUpTo(knows, ALL_TALES)) {
             return BAD;
         }
-        return notes.book.isFull() ? FULL : notes.book.append(person, knows, 0);
+        return notes.book.append(person, knows, 0);
     }
 
     public int looked() {
@@ -644,6 +644,7 @@ public final class GossipTrain {
             }
         }
 
+        /** Copies what stands behind the passengers too, so that whoever comes after an undo starts anew. */
         private void becomeLike(Train other) {
             System.arraycopy(other.heat, 0, heat, 0, TALES);
             System.arraycopy(other.often, 0, often, 0, TALES);
@@ -671,11 +672,6 @@ public final class GossipTrain {
             vs[person] = v;
             carriages[person] = carriage;
             known[person] = knows;
-            // an undo may have left another's things at this number
-            off[person] = false;
-            for (int part = 0; part < PARTS; part++) {
-                rows[person * PARTS + part] = 0;
-            }
             passengers++;
             return person;
         }
@@ -689,18 +685,19 @@ public final class GossipTrain {
             switch (kinds[person]) {
                 case GIRL: return sum + vs[person];
                 case GUARD: return sum / 2;
-                case SCANDAL: return freshOf(sum, tale);
+                case SCANDAL: return twiceIfFresh(sum, tale);
                 case TRAPPIST: return minute % 4 == 0 ? sum + vs[person] : 0;
                 case VICAR: return sum / 2 - vs[person];
-                case TOLD: return freshOf(sum, tale) + rows[person * PARTS + tale % PARTS];
+                case TOLD: return twiceIfFresh(sum, tale) + rows[person * PARTS + tale % PARTS];
                 default: return sum;
             }
         }
 
-        private int freshOf(int sum, int tale) {
+        private int twiceIfFresh(int sum, int tale) {
             return often[tale] == 0 ? sum * 2 : sum;
         }
 
+        /** Puts what a test may ask for in the order of LETTERS, so that a test is only an index and a number. */
         private int sum(int person, int tale) {
             letters[0] = person;
             letters[1] = kinds[person];
@@ -851,10 +848,11 @@ public final class GossipTrain {
         private Branch draft = new Branch();
 
         private int write(int sign) {
-            if (length < MOST_SIGNS) {
-                text[length] = sign;
-                length++;
+            if (length >= MOST_SIGNS) {
+                return FULL;
             }
+            text[length] = sign;
+            length++;
             return length;
         }
 
@@ -1087,17 +1085,14 @@ public final class GossipTrain {
             return size;
         }
 
-        private boolean isFull() {
-            return size >= most;
-        }
-
         private int append(int a, int b, int c) {
-            if (!isFull()) {
-                first[size] = a;
-                second[size] = b;
-                third[size] = c;
-                size++;
+            if (size >= most) {
+                return FULL;
             }
+            first[size] = a;
+            second[size] = b;
+            third[size] = c;
+            size++;
             return size;
         }
 

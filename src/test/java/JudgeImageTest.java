@@ -22,6 +22,13 @@ public final class JudgeImageTest {
             Check.due("no shorts", x.judge(tape, 0), -12);
         }
         x.one(0, 0, 0, 7);
+        Check.due("by one, holds nothing", x.judge(0, 0), 100);
+        x.tape(0, 1, 1);
+        Check.due("by one, otherwise", x.judge(0, 0), 0);
+        x.item(0, 0, 7);
+        Check.due("by one, so", x.judge(0, 0), -5);
+        Check.due("by one, at the end", x.judge(0, 1), 100);
+        x.tape(0, -1, 0);
         x.one(0, 0, 0, 255);
         x.one(0, 0, 0, 0);
         Check.due("holds nothing", x.judge(0, 0), 100);

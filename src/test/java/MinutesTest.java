@@ -196,6 +196,16 @@ public final class MinutesTest {
         Check.due("one step a minute", Check.branch(y, "slope 99;warm 99 m=9|m<9"), 0);
         y.set(0, 0, 0);
         Check.due("not in 30", y.gets(1), -5);
+        GossipTrain steps = Check.ofKinds(0);
+        Check.due("a step by a fresh tale", Check.branch(steps, "slope 99;warm 93 t=0"), 0);
+        for (int k = 0; k < 49; k++) {
+            steps.pass(1);
+            steps.set(0, 1, 0);
+        }
+        Check.due("at 49", steps.told(3), 49);
+        Check.due("49 is not 50", steps.gets(1), 1);
+        steps.pass(1);
+        Check.due("50 is", steps.gets(1), 0);
         GossipTrain z = Check.ofKinds(1, 1, 1, 1, 1, 1);
         Check.due("even", Check.branch(z, "slope 0;warm 99 p<6;shame 2 p=0"), 0);
         Check.due("600 in 30", z.gets(12), 30);
