@@ -1,6 +1,8 @@
 import java.lang.reflect.Method;
 import java.lang.reflect.Modifier;
 import java.util.Arrays;
+import java.util.HashMap;
+import java.util.Map;
 
 /** Many runs of drawn calls, the same each time: GossipTrain answers as the Model does, each time. */
 public final class ModelTest {
@@ -15,6 +17,8 @@ public final class ModelTest {
     private static final int[] WEIGHTS = {
         3, 12, 6, 6, 4, 8, 6, 1, 2, 14, 8, 8, 4, 4, 4, 3, 6, 8, 6, 4, 8, 5, 6, 5, 6, 2, 2, 8, 4, 4, 6, 4, 8, 6, 6,
     };
+
+    private static final Map<String, Method> METHODS = new HashMap<>();
 
     private static long state = 1;
     private static GossipTrain train;
@@ -240,9 +244,14 @@ public final class ModelTest {
 
     /** Both have methods of these names; a long is told by the last two numbers, as its halves. */
     private static long answer(Object x, String name, int[] a) {
+        Method method = METHODS.computeIfAbsent(x.getClass().getName() + "." + name, key -> methodOf(x, name));
+        return invoked(x, method, a);
+    }
+
+    private static Method methodOf(Object x, String name) {
         for (Method method : x.getClass().getDeclaredMethods()) {
             if (method.getName().equals(name) && !Modifier.isPrivate(method.getModifiers())) {
-                return invoked(x, method, a);
+                return method;
             }
         }
         throw new IllegalStateException("no method " + name);

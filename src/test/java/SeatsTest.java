@@ -61,13 +61,13 @@ public final class SeatsTest {
         Check.holds("a pair is found", want >= 0);
         Check.due("by hand", x.swap(4), want);
         Check.due("asked changes nothing", x.of(2, 2), 1);
-        GossipTrain y = Check.ofKinds(3, 0, 5, 6, 1, 2);
-        for (int p = 0; p < 6; p++) {
-            y.know(p, 1 << p | 1 << (p * 3 + 1) % 8);
-            y.set(p, 0, (p * 5 + 2) % 10);
-        }
-        Check.due("branch", Check.branch(y, "slope 4;warm 9 v=2&t>3;warm 5 k=5;shame 3 o>2&p<3"), 0);
         for (int n = 1; n <= 10; n++) {
+            GossipTrain y = Check.ofKinds(3, 0, 5, 6, 1, 2);
+            for (int p = 0; p < 6; p++) {
+                y.know(p, 1 << p | 1 << (p * 3 + 1) % 8);
+                y.set(p, 0, (p * 5 + 2) % 10);
+            }
+            Check.due("branch", Check.branch(y, "slope 4;warm 9 v=2&t>3;warm 5 k=5;shame 3 o>2&p<3"), 0);
             Check.due("by hand " + n, y.swap(n), byHand(y, n));
         }
     }
