@@ -14,6 +14,7 @@ public final class BranchBoundsTest {
         within();
         besideEachOther();
         faultPlace();
+        faultOfEachSign();
         faultAtTheEnd();
         newestHolds();
         sixAtMost();
@@ -376,6 +377,29 @@ public final class BranchBoundsTest {
         Check.due("the one that held holds", Check.branch(x, "slope 9"), 0);
         Check.due("a fault", Check.branch(x, "slope 8;slope 7;w"), -27);
         Check.due("nothing of it holds", x.told(1), 9);
+    }
+
+    /** Each sign behind each beginning of these, held against the Model's reading, which is another one. */
+    private static void faultOfEachSign() {
+        Check.sentence("The FAULT: the place of the first byte with which none begins so (each byte, 0 .. 127)");
+        String[] texts = {
+            "warm 12 !(p<3|k=44)&v>5;shame 6 t=7;slope 80",
+            "shame 1 ((!(o>9)&m=0|!!!!t<2))|p=1",
+            repeated("slope 1;", 9) + "warm 1 v=1",
+        };
+        for (String text : texts) {
+            for (int at = 0; at <= text.length(); at++) {
+                for (char sign = 0; sign < 128; sign++) {
+                    String told = text.substring(0, at) + sign;
+                    GossipTrain x = new GossipTrain();
+                    for (int k = 0; k < told.length(); k++) {
+                        x.feed(told.charAt(k));
+                    }
+                    int fault = Model.fault(told);
+                    Check.due(told, x.branch(), fault < 0 ? 0 : -10 - fault);
+                }
+            }
+        }
     }
 
     /** Each beginning of a good text that is no good text itself. */
