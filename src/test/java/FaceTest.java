@@ -96,8 +96,21 @@ public final class FaceTest {
         }
         Check.holds("some twenty fields: " + type, own <= 20);
         boolean isFace = type == GossipTrain.class;
+        for (String name : open) {
+            constant(type, name);
+        }
         Set<String> want = new TreeSet<>(isFace ? List.of("NONE", "BAD", "STATE", "FULL", "NO") : List.of());
         Check.holds("open fields of " + type + ": " + open, open.equals(want));
+    }
+
+    private static void constant(Class<?> type, String name) {
+        try {
+            Field field = type.getDeclaredField(name);
+            Check.due("modifiers of " + name, field.getModifiers(), Modifier.PUBLIC | Modifier.STATIC | Modifier.FINAL);
+            Check.holds("type of " + name, field.getType() == (name.equals("NO") ? long.class : int.class));
+        } catch (NoSuchFieldException e) {
+            Check.holds("a field " + name, false);
+        }
     }
 
     private static void inside(Class<?> inside) {
